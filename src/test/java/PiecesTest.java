@@ -66,7 +66,7 @@ public final class PiecesTest {
     private static void setRefused() {
         CrackedColumn c = Checks.loaded(FIVE);
         c.insert(1, 1);
-        int[][] bad = {{-1, 5}, {4, 5}, {0, 0}, {0, 21}, {1, 1}, {1, 121}, {2, 1}, {2, 41}, {3, 0}, {3, 31},
+        int[][] bad = {{-1, 5}, {4, 5}, {-1, 0}, {4, 0}, {0, 0}, {0, 21}, {1, 1}, {1, 121}, {2, 1}, {2, 41}, {3, 0}, {3, 31},
             {Integer.MIN_VALUE, 5}, {Integer.MAX_VALUE, 5}, {0, Integer.MIN_VALUE}, {3, Integer.MAX_VALUE}};
         for (int[] call : bad) {
             Checks.refused(c, "set(" + call[0] + ", " + call[1] + ")", IllegalArgumentException.class,
@@ -92,11 +92,21 @@ public final class PiecesTest {
         Checks.due("pieces", Checks.pieces(c), "0:4s0 40:2s0");
         Checks.due("undo", c.undo(), 3);
         Checks.due("entries behind the undo", Checks.entries(c), "0 1 2 4 3 5");
+        // the piece behind it stays as it is
+        c.load(0);
+        Checks.load(c, FIVE);
+        c.crack(25);
+        Checks.due("sort(0)", c.sort(0), 0);
+        Checks.due("entries", Checks.entries(c), "1 4 0 2 3");
+        Checks.due("sorted pieces", c.count(5), 1);
+        c.crack(10);
+        c.drop(1);
+        Checks.due("undo", c.undo(), 7);
         CrackedColumn d = c;
-        for (int piece : new int[] {2, -1, Integer.MIN_VALUE, Integer.MAX_VALUE}) {
+        for (int piece : new int[] {3, -1, Integer.MIN_VALUE, Integer.MAX_VALUE}) {
             Checks.refused(d, "sort(" + piece + ")", IndexOutOfBoundsException.class, () -> d.sort(piece));
         }
-        Checks.due("undo behind refused calls", d.undo(), 2);
+        Checks.due("undo behind refused calls", d.undo(), 6);
         CrackedColumn e = new CrackedColumn();
         Checks.due("sort of a piece without rows", e.sort(0), 0);
         Checks.due("pieces", Checks.pieces(e), "0:0s0");

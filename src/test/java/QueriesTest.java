@@ -63,6 +63,16 @@ public final class QueriesTest {
         ask(c, 15, 25, "1 5 20 20 10 0 1 0 0", "0:1u0 15:1u1 25:3u0", "1 4 0 2 3");
         // a hot limit of 1, and two pieces that are sorted: 3 * 2 behind 1 + 3 rows and a crack of 3
         ask(c, 15, 10000, "4 13 20 70 13 0 2 1 0", "0:1u0 15:1u2 25:3s1 10000:0u0", "1 4 2 0 3");
+        // two pieces that are sorted (2 * 1 each), and one that is as hot, but not read
+        c = Checks.loaded(FIVE + "row 71 1;row 69 1;row 72 1;");
+        c.query(0, 25);
+        c.query(25, 60);
+        c.query(60, 100);
+        c.set(0, 1);
+        Checks.due("pieces", Checks.pieces(c), "0:2u1 25:2u1 60:4u1 100:0u0");
+        Checks.due("query", c.query(0, 60), 4);
+        Checks.due("answer", Checks.answers(c), "4 11 10 50 8 0 2 2 0");
+        Checks.due("pieces", Checks.pieces(c), "0:2s2 25:2s2 60:4u1 100:0u0");
         // of several rows with the same key the lower numbers go ahead
         c = Checks.loaded("hot 1;row 7 1;row 6 1;row 7 2;row 6 2;row 5 0;");
         ask(c, 0, 10000, "5 6 5 7 25 0 1 1 0", "0:5s1 10000:0u0", "4 1 3 0 2");
@@ -256,6 +266,12 @@ public final class QueriesTest {
         for (int[] row : due) {
             Checks.due("nearest(" + row[0] + ", " + row[1] + ")", c.nearest(row[0], row[1]), row[2]);
         }
+        c.costOf(0, 10000);
+        CrackedColumn d = c;
+        Checks.load(d, FIVE);
+        Checks.due("nearest of what load forgot", d.nearest(0, 10000), -1);
+        d.undo();
+        Checks.due("nearest(31, 32)", d.nearest(31, 32), 0);
         c.query(100, 101);
         Checks.due("nearest(100, 101)", c.nearest(100, 101), 0);
         Checks.due("nearest(99, 100)", c.nearest(99, 100), -1);

@@ -164,6 +164,12 @@ public final class RowsTest {
         Checks.due("states", c.row(1, 2) + " " + c.row(5, 2) + " " + c.row(6, 2), "3 0 0");
         Checks.due("undo", c.undo(), 7);
         Checks.due("pending behind the undo", Checks.pendingRows(c), "5 1 6 7");
+        // the least and the greatest key
+        c = new CrackedColumn();
+        c.insert(0, 1);
+        c.insert(9999, 1);
+        Checks.due("mergeAll", c.mergeAll(), 2);
+        Checks.due("entries", Checks.entries(c), "0 1");
         // an order of another kind
         c = Checks.loaded("row 5 1;");
         c.insert(9, 1);

@@ -106,6 +106,19 @@ public final class SetupTest {
         Checks.due("pieces", Checks.pieces(c), "0:1u0");
         Checks.due("undo of the load", c.undo(), 3);
         Checks.due("after the undo", Checks.state(c), before);
+        // what was hot, sorted, pending and asked is not in the new one
+        for (int i = 0; i < 12; i++) {
+            c.query(0, 10000);
+        }
+        c.sort(0);
+        c.insert(9999, 1);
+        c.costOf(1, 2);
+        Checks.load(c, "row 8 8;");
+        Checks.due("pieces", Checks.pieces(c), "0:1u0");
+        Checks.due("pending", c.count(3), 0);
+        Checks.due("living", c.count(1), 1);
+        Checks.due("scan", c.scan(0, 10000, 0), 1);
+        Checks.due("ordered(0)", c.ordered(0), 0);
     }
 
     private static void loadLengths() {
@@ -119,6 +132,15 @@ public final class SetupTest {
         Checks.refused(c, "load(1) of the buffer that load emptied", IllegalArgumentException.class, () -> c.load(1));
         Checks.append(c, "x");
         Checks.due("load of the first bytes", c.load(1), CrackedColumn.SYNTAX_ERROR);
+        // a number, a sign and a word that end where the length does
+        String[] texts = {"hot 12;", "hot 12;", "row 1 -1;", "hot 3; row 1 1;", "hot 3;  "};
+        int[] lengths = {5, 6, 6, 9, 6};
+        int[] positions = {5, 6, 6, 7, -1};
+        for (int i = 0; i < texts.length; i++) {
+            Checks.append(c, texts[i]);
+            Checks.due("load of " + lengths[i] + " of " + texts[i], c.load(lengths[i]), positions[i] < 0 ? 0 : -2);
+            Checks.due("position", c.errorPosition(), positions[i]);
+        }
         Checks.refused(c, "load(1) of the buffer after an error", IllegalArgumentException.class, () -> c.load(1));
     }
 
@@ -191,6 +213,8 @@ public final class SetupTest {
         for (int what = 0; what < due.length; what++) {
             Checks.due("count(" + what + ")", c.count(what), due[what]);
         }
+        c.sort(0);
+        Checks.due("sorted pieces", c.count(5), 2);
         for (int what : new int[] {-1, 12, Integer.MIN_VALUE, Integer.MAX_VALUE}) {
             Checks.refused(c, "count(" + what + ")", IllegalArgumentException.class, () -> c.count(what));
         }

@@ -164,6 +164,23 @@ public final class RowsTest {
         Checks.due("states", c.row(1, 2) + " " + c.row(5, 2) + " " + c.row(6, 2), "3 0 0");
         Checks.due("undo", c.undo(), 7);
         Checks.due("pending behind the undo", Checks.pendingRows(c), "5 1 6 7");
+        // rows that leave an index of 120 rows, and 120 rows that come in
+        c = Checks.loaded("row1 1;".repeat(120));
+        c.crack(1);
+        c.delete(119);
+        c.delete(0);
+        Checks.due("mergeAll", c.mergeAll(), 2);
+        Checks.due("size", c.piece(1, 2), 118);
+        Checks.due("first place", c.entry(0), 1);
+        Checks.due("last place", c.entry(117), 118);
+        c = new CrackedColumn();
+        c.set(3, 1);
+        for (int row = 0; row < 120; row++) {
+            c.insert(row % 7, 0);
+        }
+        Checks.due("mergeAll", c.mergeAll(), 1);
+        Checks.due("size", c.piece(0, 2), 120);
+        Checks.due("sort(0)", c.sort(0), 119);
         // the least and the greatest key
         c = new CrackedColumn();
         c.insert(0, 1);

@@ -157,9 +157,9 @@ public final class SetupTest {
             "row", "row ", "row 1 ", "row 1 -", "row 1 -;", "row 1 --1;", "row -1 1;", "row 1 1;;", "row 1 1; ;",
             "row 1 1; x", "row 1 1 1;", "hot;", "hot 1 1;", "hot -1;", "hot", "hot 3", "5;", "-", "row 1,1;", "\t",
             "row\n1 1;", "row 1 1:", "hot size;", "row 1 1;hot 1;pending;", "piece 3;", "row 1 1;\u00e9", "ro w 1 1;",
-            "sizes 2;", "row 1 +1;"};
+            "sizes 2;", "row 1 +1;", "rowa 1 1;", "rowz 1 1;", "arow 1 1;", "row`1 1;", "row{1 1;"};
         int[] positions = {0, 0, 0, 0, 3, 5, 5, 7, 8, 3, 4, 6, 7, 7, 7, 4, 8, 9, 9, 8, 3, 6, 4, 3, 5, 0, 0, 5, 0,
-            3, 7, 4, 21, 0, 8, 0, 0, 6};
+            3, 7, 4, 21, 0, 8, 0, 0, 6, 0, 0, 0, 3, 3};
         for (int i = 0; i < texts.length; i++) {
             fault(texts[i], CrackedColumn.SYNTAX_ERROR, positions[i]);
         }

@@ -7,8 +7,9 @@ import java.util.TreeMap;
 
 /** Runs of random calls, each answer held against the model's; the seeds are fixed. */
 public final class RandomRunsTest {
-    private static final int RUNS = 400;
-    private static final int CALLS = 512;
+    private static final int RUNS = 1200;
+    // What an object answers later is free.
+    private static final int MOST_CALLS = 512;
     private static final String[] CHANGES = {"query", "query", "query", "query", "insert", "insert", "delete", "mergeAll",
         "set", "sort", "crack", "drop", "undo"};
     private static final int[] COUNTS = {12, 4, 6, 9, 5};
@@ -22,6 +23,7 @@ public final class RandomRunsTest {
     private final int keys;
     private final StringBuilder told = new StringBuilder();
     private boolean wrong = false;
+    private int made = 0;
 
     private RandomRunsTest(int seed) {
         random = new Random(seed);
@@ -48,7 +50,8 @@ public final class RandomRunsTest {
 
     private void run(int seed) throws IllegalAccessException {
         String[] names = calls.keySet().toArray(new String[0]);
-        for (int i = 0; i < CALLS && !wrong; i++) {
+        int looked = 60 + random.nextInt(400);
+        for (int i = 0; made < looked && !wrong; i++) {
             int kind = random.nextInt(100);
             if (i == 0 && seed % 8 != 7 || kind < 2) {
                 loadText();
@@ -57,16 +60,18 @@ public final class RandomRunsTest {
             } else {
                 randomCall(names[random.nextInt(names.length)]);
             }
-            if (i % 16 == 0) {
-                lookAtAll();
-            }
         }
+        lookAtAll();
         if (wrong) {
             Checks.tell("run of seed " + seed + ":\n" + told);
         }
     }
 
     private int call(String name, int... args) throws IllegalAccessException {
+        if (made >= MOST_CALLS) {
+            return -1;
+        }
+        made++;
         Object[] objects = Arrays.stream(args).boxed().toArray();
         Object got = answer(calls.get(name), column, objects);
         Object due = answer(modelCalls.get(name), model, objects);
@@ -89,20 +94,11 @@ public final class RandomRunsTest {
         }
     }
 
+    /** As much of it as the last calls tell. */
     private void lookAtAll() throws IllegalAccessException {
         int end = told.length();
         for (int what = 0; what <= 11; what++) {
             call("count", what);
-        }
-        String[] tables = {"row", "piece", "asked"};
-        int[] sizes = {model.count(0), model.count(4), model.count(11)};
-        int[] whats = {3, 5, 4};
-        for (int t = 0; t < tables.length; t++) {
-            for (int i = 0; i < sizes[t]; i++) {
-                for (int what = 0; what <= whats[t]; what++) {
-                    call(tables[t], i, what);
-                }
-            }
         }
         for (int place = 0; place <= model.count(2); place++) {
             call("entry", place);
@@ -112,6 +108,16 @@ public final class RandomRunsTest {
         }
         for (int what = 0; what <= 8; what++) {
             call("answer", what);
+        }
+        String[] tables = {"piece", "asked", "row"};
+        int[] sizes = {model.count(4), model.count(11), model.count(0)};
+        int[] whats = {5, 4, 3};
+        for (int t = 0; t < tables.length; t++) {
+            for (int i = 0; i < sizes[t]; i++) {
+                for (int what = 0; what <= whats[t]; what++) {
+                    call(tables[t], i, what);
+                }
+            }
         }
         if (!wrong) {
             told.setLength(end);

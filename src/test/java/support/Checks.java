@@ -1,4 +1,5 @@
 import java.nio.charset.StandardCharsets;
+import java.util.function.IntBinaryOperator;
 
 /** What all tests of the project use: the due answers, refused calls, and all that can be seen of an object. */
 final class Checks {
@@ -7,8 +8,14 @@ final class Checks {
     }
 
     private static int wrong = 0;
+    private static String about = "";
 
     private Checks() {
+    }
+
+    /** What the next tests are about is told ahead of what is wrong in them. */
+    static void about(String what) {
+        about = what;
     }
 
     static void due(String call, long got, long want) {
@@ -39,7 +46,7 @@ final class Checks {
     static void tell(String message) {
         wrong++;
         if (wrong <= 50) {
-            System.out.println(message);
+            System.out.println(about + message);
         }
     }
 
@@ -99,7 +106,8 @@ final class Checks {
 
     static String entries(CrackedColumn column) {
         StringBuilder text = new StringBuilder();
-        for (int place = 0; place < column.count(2); place++) {
+        int size = column.count(2);
+        for (int place = 0; place < size; place++) {
             text.append(place > 0 ? " " : "").append(column.entry(place));
         }
         return text.toString();
@@ -107,7 +115,8 @@ final class Checks {
 
     static String pendingRows(CrackedColumn column) {
         StringBuilder text = new StringBuilder();
-        for (int place = 0; place < column.count(3); place++) {
+        int size = column.count(3);
+        for (int place = 0; place < size; place++) {
             text.append(place > 0 ? " " : "").append(column.pending(place));
         }
         return text.toString();
@@ -128,31 +137,40 @@ final class Checks {
 
     /** All that an undo brings back. */
     static String state(CrackedColumn column) {
+        return lists(column) + rows(column, 0, 3) + pieces(column, 0, 5) + kept(column);
+    }
+
+    /** The counts, the index, the pending rows and the latest answer. */
+    static String lists(CrackedColumn column) {
         StringBuilder text = new StringBuilder("counts");
         for (int what = 0; what <= 11; what++) {
             text.append(' ').append(column.count(what));
         }
-        for (int row = 0; row < column.count(0); row++) {
-            text.append("\nrow");
-            for (int what = 0; what <= 3; what++) {
-                text.append(' ').append(column.row(row, what));
-            }
-        }
-        for (int piece = 0; piece < column.count(4); piece++) {
-            text.append("\npiece");
-            for (int what = 0; what <= 5; what++) {
-                text.append(' ').append(column.piece(piece, what));
-            }
-        }
-        for (int back = 0; back < column.count(11); back++) {
-            text.append("\nasked");
-            for (int what = 0; what <= 4; what++) {
-                text.append(' ').append(column.asked(back, what));
-            }
-        }
         text.append("\nentries ").append(entries(column));
         text.append("\npending ").append(pendingRows(column));
-        text.append("\nanswer ").append(answers(column));
+        return text.append("\nanswer ").append(answers(column)).toString();
+    }
+
+    static String rows(CrackedColumn column, int from, int to) {
+        return table("row", column.count(0), from, to, column::row);
+    }
+
+    static String pieces(CrackedColumn column, int from, int to) {
+        return table("piece", column.count(4), from, to, column::piece);
+    }
+
+    static String kept(CrackedColumn column) {
+        return table("asked", column.count(11), 0, 4, column::asked);
+    }
+
+    private static String table(String name, int lines, int from, int to, IntBinaryOperator number) {
+        StringBuilder text = new StringBuilder();
+        for (int line = 0; line < lines; line++) {
+            text.append('\n').append(name);
+            for (int what = from; what <= to; what++) {
+                text.append(' ').append(number.applyAsInt(line, what));
+            }
+        }
         return text.toString();
     }
 

@@ -180,7 +180,8 @@ public final class PiecesEdgesTest {
 
     private static void sortReturns() {
         edge(23, "Returns how many of its rows have another place then.", () -> {
-            int[][] keys = {{}, {5}, {5, 5}, {5, 6}, {6, 5}, {6, 5, 4}, {5, 6, 4}, {4, 6, 5}, {5, 5, 5, 5}, {6, 5, 6, 5}, {5, 6, 5, 6}};
+            int[][] keys = {{}, {5}, {5, 5}, {5, 6}, {6, 5}, {6, 5, 4}, {5, 6, 4}, {4, 6, 5}, {5, 5, 5, 5},
+                {6, 5, 6, 5}, {5, 6, 5, 6}};
             int[] due = {0, 0, 0, 0, 2, 2, 3, 2, 0, 4, 2};
             for (int i = 0; i < keys.length; i++) {
                 Checks.due("sort of case " + i, Checks.loaded(text(keys[i])).sort(0), due[i]);
@@ -316,7 +317,8 @@ public final class PiecesEdgesTest {
             even("keys 40 30 20 10", Checks.loaded(text(40, 30, 20, 10)), 30);
             even("one row", Checks.loaded(text(10)), 10);
             even("rows with the same key", Checks.loaded(text(10, 10, 10)), 10);
-            Checks.due("evenCrack of 120 rows", Checks.loaded("row1 1;".repeat(59) + "row2 1;" + "row3 1;".repeat(60)).evenCrack(), 3);
+            CrackedColumn full = Checks.loaded("row1 1;".repeat(59) + "row2 1;" + "row3 1;".repeat(60));
+            Checks.due("evenCrack of 120 rows", full.evenCrack(), 3);
         });
         edge(25, "Returns the key, of several the least one.", () -> {
             // 1 and 2, 2 and 1, whatever the order of the rows is
@@ -356,9 +358,10 @@ public final class PiecesEdgesTest {
         edge(25, "or that piece has no such key", () -> {
             Edges.refused(CrackedColumn::new, "evenCrack without rows", NO_ELEMENT, x -> x.evenCrack());
             // smaller pieces ahead and behind that have one are no help
-            Edges.refused(() -> cracked(text(1, 5, 5), 5), "evenCrack of keys that are the bound", NO_ELEMENT, x -> x.evenCrack());
-            Edges.refused(() -> cracked(text(5, 5, 20), 5, 10), "evenCrack of keys that are the bound ahead of others", NO_ELEMENT,
+            Edges.refused(() -> cracked(text(1, 5, 5), 5), "evenCrack of keys that are the bound", NO_ELEMENT,
                 x -> x.evenCrack());
+            Edges.refused(() -> cracked(text(5, 5, 20), 5, 10), "evenCrack of keys that are the bound ahead of others",
+                NO_ELEMENT, x -> x.evenCrack());
             Edges.refused(() -> {
                 CrackedColumn c = cracked(text(1, 2), 5);
                 c.sort(0);
@@ -396,7 +399,8 @@ public final class PiecesEdgesTest {
             c = withPieces(60);
             c.drop(59);
             c.drop(1);
-            Checks.due("bounds of 58 pieces", c.count(4) + " " + c.piece(0, 0) + " " + c.piece(1, 0) + " " + c.piece(57, 0), "58 0 2 58");
+            String bounds = c.piece(0, 0) + " " + c.piece(1, 0) + " " + c.piece(57, 0);
+            Checks.due("pieces and some of their bounds", c.count(4) + ": " + bounds, "58: 0 2 58");
         });
         edge(26, "`piece`: number of a piece Returns the size of the new piece.", () -> {
             CrackedColumn c = cracked(FIVE, 10, 30, 60, 10000);
@@ -465,7 +469,8 @@ public final class PiecesEdgesTest {
     private static void coldestPair() {
         edge(28, "Returns the first piece of the pair of which a query would drop the bound, if there were too many pieces."
             + " Returns its number.", () -> {
-            int[][] heats = {{0, 0}, {5, 0}, {1, 2, 3}, {3, 2, 1}, {2, 2, 2}, {4, 0, 1, 4}, {0, 3, 2, 1}, {1, 4, 1, 4}, {2, 0, 2, 0}};
+            int[][] heats = {{0, 0}, {5, 0}, {1, 2, 3}, {3, 2, 1}, {2, 2, 2}, {4, 0, 1, 4}, {0, 3, 2, 1},
+                {1, 4, 1, 4}, {2, 0, 2, 0}};
             int[] due = {0, 0, 0, 1, 0, 1, 0, 0, 0};
             for (int i = 0; i < heats.length; i++) {
                 CrackedColumn c = withHeats(heats[i]);

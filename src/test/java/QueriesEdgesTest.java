@@ -51,9 +51,13 @@ public final class QueriesEdgesTest {
         void ask(CrackedColumn column, int low, int high);
     }
 
+    private static String spoken(int[] span) {
+        return "(" + span[0] + ", " + span[1] + ")";
+    }
+
     private static void lows(String name, Span call) {
         for (int[] span : new int[][] {{0, 1}, {0, 10000}, {9999, 10000}}) {
-            Edges.allowed(QueriesEdgesTest::used, name + "(" + span[0] + ", " + span[1] + ")", x -> call.ask(x, span[0], span[1]));
+            Edges.allowed(QueriesEdgesTest::used, name + spoken(span), x -> call.ask(x, span[0], span[1]));
         }
         int[][] bad = {{-1, 0}, {-1, 1}, {-1, 10000}, {10000, 10001}, {10000, 10000}, {Integer.MIN_VALUE, 5},
             {Integer.MAX_VALUE, 5}, {Integer.MAX_VALUE, Integer.MIN_VALUE}};
@@ -62,7 +66,7 @@ public final class QueriesEdgesTest {
 
     private static void highs(String name, Span call) {
         for (int[] span : new int[][] {{5, 6}, {5, 10000}, {9998, 9999}}) {
-            Edges.allowed(QueriesEdgesTest::used, name + "(" + span[0] + ", " + span[1] + ")", x -> call.ask(x, span[0], span[1]));
+            Edges.allowed(QueriesEdgesTest::used, name + spoken(span), x -> call.ask(x, span[0], span[1]));
         }
         int[][] bad = {{5, 5}, {5, 4}, {5, 0}, {5, -1}, {0, 0}, {9999, 9999}, {0, 10001}, {9999, 10001}, {0, Integer.MAX_VALUE},
             {0, Integer.MIN_VALUE}};
@@ -71,8 +75,7 @@ public final class QueriesEdgesTest {
 
     private static void refusedSpans(String name, Span call, int[][] spans) {
         for (int[] span : spans) {
-            Edges.refused(QueriesEdgesTest::used, name + "(" + span[0] + ", " + span[1] + ")", ARGUMENT,
-                x -> call.ask(x, span[0], span[1]));
+            Edges.refused(QueriesEdgesTest::used, name + spoken(span), ARGUMENT, x -> call.ask(x, span[0], span[1]));
         }
     }
 
@@ -392,7 +395,7 @@ public final class QueriesEdgesTest {
 
     private static void meanSpans(Span mean, int[][] spans) {
         for (int[] span : spans) {
-            Edges.allowed(CrackedColumn::new, "mean(" + span[0] + ", " + span[1] + ")", x -> mean.ask(x, span[0], span[1]));
+            Edges.allowed(CrackedColumn::new, "mean" + spoken(span), x -> mean.ask(x, span[0], span[1]));
         }
         int[][] bad = {{-1, 1}, {10000, 10001}, {10000, 10000}, {5, 5}, {5, 4}, {0, 10001}, {9999, 10001},
             {Integer.MIN_VALUE, 5}, {Integer.MAX_VALUE, Integer.MIN_VALUE}, {0, Integer.MAX_VALUE}, {0, Integer.MIN_VALUE}};
@@ -431,7 +434,7 @@ public final class QueriesEdgesTest {
     private static void costOfChangesNothing() {
         edge(15, "nothing changes", () -> {
             for (int[] span : new int[][] {{20, 60}, {22, 33}, {0, 10000}}) {
-                Edges.alike("costOf(" + span[0] + ", " + span[1] + ")", () -> {
+                Edges.alike("costOf" + spoken(span), () -> {
                     CrackedColumn c = used();
                     c.costOf(span[0], span[1]);
                     c.costOf(span[0], span[1]);

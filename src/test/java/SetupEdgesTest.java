@@ -227,7 +227,7 @@ public final class SetupEdgesTest {
                     CrackedColumn c = new CrackedColumn();
                     Checks.append(c, text);
                     c.load(length);
-                    Checks.due("load(1) behind load(" + length + ")", Edges.thrown(c, x -> x.load(1)), "IllegalArgumentException");
+                    Checks.due("load(1)", Edges.thrown(c, x -> x.load(1)), "IllegalArgumentException");
                     Checks.due("append", c.append(0x20202020, 0x20202020, 0x20202020, 0x20202020, 0x20202020), 20);
                     Checks.due("load of what was appended then", c.load(20), 0);
                 }
@@ -360,7 +360,8 @@ public final class SetupEdgesTest {
             c.delete(2);
             String[] due = {"9999 -99 0 1", "0 99 0 0", "5 0 2 2"};
             for (int row = 0; row < due.length; row++) {
-                Checks.due("row " + row, c.row(row, 0) + " " + c.row(row, 1) + " " + c.row(row, 2) + " " + c.row(row, 3), due[row]);
+                String got = c.row(row, 0) + " " + c.row(row, 1) + " " + c.row(row, 2) + " " + c.row(row, 3);
+                Checks.due("row " + row, got, due[row]);
             }
         });
         edge(6, "(NONE if it is not in it)", () -> {
@@ -369,10 +370,14 @@ public final class SetupEdgesTest {
             c.insert(4, 1);
             c.delete(3);
             c.delete(0);
-            Checks.due("places", c.row(0, 3) + " " + c.row(1, 3) + " " + c.row(2, 3) + " " + c.row(3, 3), "0 1 -1 -1");
+            Checks.due("places", places(c), "0 1 -1 -1");
             c.mergeAll();
-            Checks.due("places behind mergeAll", c.row(0, 3) + " " + c.row(1, 3) + " " + c.row(2, 3) + " " + c.row(3, 3), "-1 0 1 -1");
+            Checks.due("places behind mergeAll", places(c), "-1 0 1 -1");
         });
+    }
+
+    private static String places(CrackedColumn c) {
+        return c.row(0, 3) + " " + c.row(1, 3) + " " + c.row(2, 3) + " " + c.row(3, 3);
     }
 
     private static void rowRefused() {

@@ -154,7 +154,8 @@ public final class TextEdgesTest {
 
     private static void numbers() {
         edge(5, "N is the longest possible sequence of digits", () -> {
-            CrackedColumn c = Checks.loaded("row9876 54;row 0000 00000;row 0000000000000000009999 000000000000000000099;hot 007;");
+            CrackedColumn c = Checks.loaded("row9876 54;row 0000 00000;hot 007;"
+                + "row 0000000000000000009999 000000000000000000099;");
             Checks.due("rows", c.row(0, 0) + " " + c.row(0, 1) + " " + c.row(1, 0) + " " + c.row(1, 1) + " " + c.row(2, 0)
                 + " " + c.row(2, 1), "9876 54 0 0 9999 99");
             Checks.due("the hot limit", c.count(6), 7);
@@ -194,8 +195,9 @@ public final class TextEdgesTest {
     private static void settings() {
         edge(5, "The numbers are: the key and the value of a row (with its sign)", () -> {
             CrackedColumn c = Checks.loaded("row 12 34;row 56 -78;row 9 - 9;row 1 -0;");
-            for (int row = 0; row < 4; row++) {
-                Checks.due("row " + row, c.row(row, 0) + " " + c.row(row, 1), new String[] {"12 34", "56 -78", "9 -9", "1 0"}[row]);
+            String[] due = {"12 34", "56 -78", "9 -9", "1 0"};
+            for (int row = 0; row < due.length; row++) {
+                Checks.due("row " + row, c.row(row, 0) + " " + c.row(row, 1), due[row]);
             }
         });
         edge(5, "the four settings (the last one of a kind counts; one that is not told is as at first)", () -> {
@@ -260,7 +262,7 @@ public final class TextEdgesTest {
         edge(5, "a byte or token that is not allowed here", () -> {
             String[] ahead = {"", "row", "row 1", "row 1 ", "row 1 -", "row 1 1", "row 1 1;", "hot", "hot 1"};
             for (int sign = 0; sign < 256; sign++) {
-                boolean inTokens = sign == ' ' || sign == '-' || sign == ';' || sign >= '0' && sign <= '9' || sign >= 'a' && sign <= 'z';
+                boolean inTokens = " -;".indexOf(sign) >= 0 || sign >= '0' && sign <= '9' || sign >= 'a' && sign <= 'z';
                 for (int i = 0; i < ahead.length && !inTokens; i++) {
                     CrackedColumn c = new CrackedColumn();
                     Checks.due("load with the byte " + sign, Checks.load(c, ahead[i] + (char) sign + " 1;"), -2);
@@ -628,8 +630,11 @@ public final class TextEdgesTest {
             CrackedColumn c = Checks.loaded("");
             c.insert(1, 1);
             c.query(2, 3);
-            Checks.due("what there is none of", c.row(0, 3) + " " + c.answer(2) + " " + c.scan(2, 3, 3) + " " + c.nearest(1, 2) + " "
-                + c.errorPosition(), "-1 -1 -1 -1 -1");
+            Checks.due("place of a pending row", c.row(0, 3), -1);
+            Checks.due("least key of no rows", c.answer(2), -1);
+            Checks.due("greatest key of no rows", c.scan(2, 3, 3), -1);
+            Checks.due("nearest of no query", c.nearest(1, 2), -1);
+            Checks.due("position of no error", c.errorPosition(), -1);
         });
         edge(6, "`SYNTAX_ERROR = -2`: Error code of load: the text does not follow the grammar.", () -> {
             Checks.due("SYNTAX_ERROR", CrackedColumn.SYNTAX_ERROR, -2);

@@ -17,6 +17,7 @@ public final class UndoEdgesTest {
         undo();
         undoReturns();
         undoRefused();
+        lastCalls();
         Edges.finish("Promise", 29, 31);
     }
 
@@ -257,5 +258,27 @@ public final class UndoEdgesTest {
                 }, "undo behind all undos of " + changes + " changes", STATE, x -> x.undo());
             }
         });
+    }
+
+    /** The document's "at most 512 calls": the last of them is answered like the first. */
+    private static void lastCalls() {
+        CrackedColumn c = new CrackedColumn();
+        for (int i = 0; i < 511; i++) {
+            c.query(0, 10000);
+        }
+        Checks.due("heat behind 511 queries", c.piece(0, 3), 511);
+        c = new CrackedColumn();
+        for (int i = 0; i < 503; i++) {
+            c.set(0, 1 + i % 20);
+        }
+        for (int left = 7; left >= 0; left--) {
+            Checks.due("undo", c.undo(), left);
+        }
+        Checks.due("the 512th call", Edges.thrown(c, x -> x.undo()), "IllegalStateException");
+        c = new CrackedColumn();
+        for (int i = 0; i < 511; i++) {
+            c.writePieces();
+        }
+        Checks.due("the 512th call", c.writtenByte(4), '0');
     }
 }

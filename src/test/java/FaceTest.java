@@ -1,8 +1,11 @@
+import java.io.IOException;
 import java.lang.reflect.Constructor;
 import java.lang.reflect.Field;
 import java.lang.reflect.Member;
 import java.lang.reflect.Method;
 import java.lang.reflect.Modifier;
+import java.nio.file.Files;
+import java.nio.file.Path;
 import java.util.Arrays;
 import java.util.TreeSet;
 
@@ -46,7 +49,7 @@ public final class FaceTest {
         "int undo() IllegalStateException",
     };
 
-    public static void main(String[] args) throws IllegalAccessException {
+    public static void main(String[] args) throws IllegalAccessException, IOException {
         TreeSet<String> found = new TreeSet<>();
         for (Field field : CrackedColumn.class.getDeclaredFields()) {
             if (isSeen(field)) {
@@ -68,7 +71,29 @@ public final class FaceTest {
         int wanted = Modifier.PUBLIC | Modifier.FINAL;
         Checks.due("the class is public and final", CrackedColumn.class.getModifiers() & wanted, wanted);
         Checks.due("the class stands in no package", CrackedColumn.class.getPackageName(), "");
+        sourceSaysTheFace();
         Checks.finish();
+    }
+
+    /** The lines of the document's face stand in the source, in their order, with the names of what they take. */
+    private static void sourceSaysTheFace() throws IOException {
+        String document = Files.readString(Path.of("../shared/DOC.md"));
+        String source = Files.readString(Path.of("src/main/java/CrackedColumn.java"));
+        int start = document.indexOf("```java\n", document.indexOf("## The public face")) + 8;
+        String face = document.substring(start, document.indexOf("```", start));
+        int at = 0;
+        int lines = 0;
+        for (String line : face.lines().toList()) {
+            if (line.isBlank()) {
+                continue;
+            }
+            String words = line.contains("(") ? line.strip().replaceFirst(";$", " {") : line.strip();
+            int found = source.indexOf(words, at);
+            Checks.due("the source says behind the lines before: " + words, found >= 0 ? 1 : 0, 1);
+            at = found >= 0 ? found + words.length() : at;
+            lines++;
+        }
+        Checks.due("lines of the face", lines, FACE.length + 3);
     }
 
     private static boolean isSeen(Member member) {

@@ -64,15 +64,18 @@ public final class PiecesTest {
     }
 
     private static void setRefused() {
-        CrackedColumn c = Checks.loaded(FIVE);
-        c.insert(1, 1);
         int[][] bad = {{-1, 5}, {4, 5}, {-1, 0}, {4, 0}, {0, 0}, {0, 21}, {1, 1}, {1, 121}, {2, 1}, {2, 41}, {3, 0}, {3, 31},
             {Integer.MIN_VALUE, 5}, {Integer.MAX_VALUE, 5}, {0, Integer.MIN_VALUE}, {3, Integer.MAX_VALUE}};
         for (int[] call : bad) {
-            Checks.refused(c, "set(" + call[0] + ", " + call[1] + ")", IllegalArgumentException.class,
-                () -> c.set(call[0], call[1]));
+            Edges.refused(PiecesTest::oneInserted, "set(" + call[0] + ", " + call[1] + ")",
+                IllegalArgumentException.class, c -> c.set(call[0], call[1]));
         }
-        Checks.due("undo behind refused calls", c.undo(), 1);
+    }
+
+    private static CrackedColumn oneInserted() {
+        CrackedColumn c = Checks.loaded(FIVE);
+        c.insert(1, 1);
+        return c;
     }
 
     private static void sort() {
@@ -102,11 +105,10 @@ public final class PiecesTest {
         c.crack(10);
         c.drop(1);
         Checks.due("undo", c.undo(), 7);
-        CrackedColumn d = c;
         for (int piece : new int[] {3, -1, Integer.MIN_VALUE, Integer.MAX_VALUE}) {
-            Checks.refused(d, "sort(" + piece + ")", IndexOutOfBoundsException.class, () -> d.sort(piece));
+            Edges.refused(PiecesTest::threePieces, "sort(" + piece + ")", IndexOutOfBoundsException.class,
+                d -> d.sort(piece));
         }
-        Checks.due("undo behind refused calls", d.undo(), 6);
         CrackedColumn e = new CrackedColumn();
         Checks.due("sort of a piece without rows", e.sort(0), 0);
         Checks.due("pieces", Checks.pieces(e), "0:0s0");
@@ -123,6 +125,13 @@ public final class PiecesTest {
         Checks.due("entries", Checks.entries(f), "0 1 2 3");
         Checks.due("sort(0)", f.sort(0), 3);
         Checks.due("entries", Checks.entries(f), "0 2 3 1");
+    }
+
+    private static CrackedColumn threePieces() {
+        CrackedColumn c = Checks.loaded(FIVE);
+        c.crack(25);
+        c.crack(10);
+        return c;
     }
 
     private static void crack() {
@@ -172,21 +181,29 @@ public final class PiecesTest {
     }
 
     private static void crackRefused() {
-        CrackedColumn c = Checks.loaded(FIVE);
         for (int at : new int[] {-1, 10001, Integer.MIN_VALUE, Integer.MAX_VALUE}) {
-            Checks.refused(c, "crack(" + at + ")", IllegalArgumentException.class, () -> c.crack(at));
+            Edges.refused(PiecesTest::threePieces, "crack(" + at + ")", IllegalArgumentException.class,
+                c -> c.crack(at));
         }
-        Checks.due("undo behind refused calls", c.undo(), 0);
+        CrackedColumn sixty = sixtyPieces();
+        Checks.due("pieces", sixty.count(4), 60);
+        Edges.refused(PiecesTest::sixtyPieces, "crack(100) of 60 pieces", IllegalStateException.class,
+            c -> c.crack(100));
+        Edges.refused(PiecesTest::sixtyPieces, "crack(7) at a bound of 60 pieces", IllegalStateException.class,
+            c -> c.crack(7));
+        Edges.refused(PiecesTest::sixtyPieces, "crack(10001) of 60 pieces", IllegalArgumentException.class,
+            c -> c.crack(10001));
+        sixty.drop(7);
+        Checks.due("crack of 59 pieces", sixty.crack(7), 0);
+        Checks.due("pieces", sixty.count(4), 60);
+    }
+
+    private static CrackedColumn sixtyPieces() {
+        CrackedColumn c = Checks.loaded(FIVE);
         for (int at = 1; at <= 59; at++) {
             c.crack(at);
         }
-        Checks.due("pieces", c.count(4), 60);
-        Checks.refused(c, "crack(100) of 60 pieces", IllegalStateException.class, () -> c.crack(100));
-        Checks.refused(c, "crack(7) at a bound of 60 pieces", IllegalStateException.class, () -> c.crack(7));
-        Checks.refused(c, "crack(10001) of 60 pieces", IllegalArgumentException.class, () -> c.crack(10001));
-        c.drop(7);
-        Checks.due("crack of 59 pieces", c.crack(7), 0);
-        Checks.due("pieces", c.count(4), 60);
+        return c;
     }
 
     private static void even(String text, int... cracksAndDue) {
@@ -267,13 +284,11 @@ public final class PiecesTest {
     }
 
     private static void dropRefused() {
-        CrackedColumn c = Checks.loaded(FIVE);
-        c.crack(30);
-        Checks.refused(c, "drop(0)", IllegalStateException.class, () -> c.drop(0));
-        for (int piece : new int[] {2, -1, Integer.MIN_VALUE, Integer.MAX_VALUE}) {
-            Checks.refused(c, "drop(" + piece + ")", IndexOutOfBoundsException.class, () -> c.drop(piece));
+        Edges.refused(PiecesTest::threePieces, "drop(0)", IllegalStateException.class, c -> c.drop(0));
+        for (int piece : new int[] {3, -1, Integer.MIN_VALUE, Integer.MAX_VALUE}) {
+            Edges.refused(PiecesTest::threePieces, "drop(" + piece + ")", IndexOutOfBoundsException.class,
+                c -> c.drop(piece));
         }
-        Checks.due("undo behind refused calls", c.undo(), 1);
         CrackedColumn d = new CrackedColumn();
         Checks.refused(d, "drop(0) of one piece", IllegalStateException.class, () -> d.drop(0));
         Checks.refused(d, "drop(1) of one piece", IndexOutOfBoundsException.class, () -> d.drop(1));

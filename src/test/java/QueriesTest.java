@@ -1,4 +1,5 @@
 import java.util.NoSuchElementException;
+import java.util.function.Consumer;
 
 /** Promises 11 to 18: queries, their answers, those that are kept, and what looks without a change. */
 public final class QueriesTest {
@@ -186,28 +187,36 @@ public final class QueriesTest {
     }
 
     private static void queryRefused() {
-        CrackedColumn c = Checks.loaded(FIVE);
-        c.query(20, 60);
         for (int[] span : BAD_SPANS) {
             int low = span[0];
             int high = span[1];
             String spoken = "(" + low + ", " + high + ")";
-            Checks.refused(c, "query" + spoken, IllegalArgumentException.class, () -> c.query(low, high));
-            Checks.refused(c, "nearest" + spoken, IllegalArgumentException.class, () -> c.nearest(low, high));
-            Checks.refused(c, "costOf" + spoken, IllegalArgumentException.class, () -> c.costOf(low, high));
-            Checks.refused(c, "scan" + spoken, IllegalArgumentException.class, () -> c.scan(low, high, 0));
-            Checks.refused(c, "mean" + spoken, IllegalArgumentException.class, () -> c.mean(low, high));
+            refused("query" + spoken, c -> c.query(low, high));
+            refused("nearest" + spoken, c -> c.nearest(low, high));
+            refused("costOf" + spoken, c -> c.costOf(low, high));
+            refused("scan" + spoken, c -> c.scan(low, high, 0));
+            refused("mean" + spoken, c -> c.mean(low, high));
         }
-        Checks.due("undo behind refused calls", c.undo(), 1);
+    }
+
+    private static void refused(String call, Consumer<CrackedColumn> run) {
+        Edges.refused(QueriesTest::onceAsked, call, IllegalArgumentException.class, run);
+    }
+
+    private static CrackedColumn onceAsked() {
+        CrackedColumn c = Checks.loaded(FIVE);
+        c.query(20, 60);
+        return c;
     }
 
     private static void answer() {
-        CrackedColumn c = Checks.loaded(FIVE);
-        Checks.refused(c, "answer(0)", NoSuchElementException.class, () -> c.answer(0));
-        Checks.refused(c, "answer(8)", NoSuchElementException.class, () -> c.answer(8));
-        Checks.refused(c, "answer(9)", IllegalArgumentException.class, () -> c.answer(9));
-        Checks.refused(c, "answer(-1)", IllegalArgumentException.class, () -> c.answer(-1));
-        c.query(20, 60);
+        CrackedColumn unasked = Checks.loaded(FIVE);
+        Checks.refused(unasked, "answer(0)", NoSuchElementException.class, () -> unasked.answer(0));
+        Checks.refused(unasked, "answer(8)", NoSuchElementException.class, () -> unasked.answer(8));
+        CrackedColumn wrongly = Checks.loaded(FIVE);
+        Checks.refused(wrongly, "answer(9)", IllegalArgumentException.class, () -> wrongly.answer(9));
+        Checks.refused(wrongly, "answer(-1)", IllegalArgumentException.class, () -> wrongly.answer(-1));
+        CrackedColumn c = onceAsked();
         c.delete(0);
         c.insert(30, 80);
         c.mergeAll();
@@ -234,11 +243,13 @@ public final class QueriesTest {
         c.insert(25, 1);
         // merged into piece 1 of 5: 4, and one row more
         Checks.due("asked(1, 4)", c.asked(1, 4), 8 - 12);
-        Checks.refused(c, "asked(2, 0)", IndexOutOfBoundsException.class, () -> c.asked(2, 0));
-        Checks.refused(c, "asked(-1, 0)", IndexOutOfBoundsException.class, () -> c.asked(-1, 0));
-        Checks.refused(c, "asked(2, 5)", IndexOutOfBoundsException.class, () -> c.asked(2, 5));
-        Checks.refused(c, "asked(1, 5)", IllegalArgumentException.class, () -> c.asked(1, 5));
-        Checks.refused(c, "asked(1, -1)", IllegalArgumentException.class, () -> c.asked(1, -1));
+        CrackedColumn once = onceAsked();
+        Checks.refused(once, "asked(1, 0)", IndexOutOfBoundsException.class, () -> once.asked(1, 0));
+        Checks.refused(once, "asked(-1, 0)", IndexOutOfBoundsException.class, () -> once.asked(-1, 0));
+        CrackedColumn again = onceAsked();
+        Checks.refused(again, "asked(1, 5)", IndexOutOfBoundsException.class, () -> again.asked(1, 5));
+        refused("asked(0, 5)", d -> d.asked(0, 5));
+        refused("asked(0, -1)", d -> d.asked(0, -1));
     }
 
     private static void askedKeepsTwenty() {
@@ -358,8 +369,9 @@ public final class QueriesTest {
             Checks.due("ordered(" + place + ")", c.ordered(place), due[place]);
         }
         Checks.due("all that is seen behind ordered", Checks.view(c), before);
-        Checks.refused(c, "ordered(7)", IndexOutOfBoundsException.class, () -> c.ordered(7));
-        Checks.refused(c, "ordered(-1)", IndexOutOfBoundsException.class, () -> c.ordered(-1));
+        CrackedColumn five = Checks.loaded(FIVE);
+        Checks.refused(five, "ordered(5)", IndexOutOfBoundsException.class, () -> five.ordered(5));
+        Checks.refused(five, "ordered(-1)", IndexOutOfBoundsException.class, () -> five.ordered(-1));
         CrackedColumn d = new CrackedColumn();
         Checks.refused(d, "ordered(0) without rows", IndexOutOfBoundsException.class, () -> d.ordered(0));
     }

@@ -67,21 +67,35 @@ public final class RowsTest {
     }
 
     private static void insertRefused() {
-        CrackedColumn c = Checks.loaded("row1 1;".repeat(118) + "pending 30;");
         int[][] bad = {{-1, 0}, {10000, 0}, {0, 100}, {0, -100}, {Integer.MIN_VALUE, 0}, {Integer.MAX_VALUE, 0},
             {0, Integer.MIN_VALUE}, {0, Integer.MAX_VALUE}};
         for (int[] row : bad) {
-            Checks.refused(c, "insert(" + row[0] + ", " + row[1] + ")", IllegalArgumentException.class,
-                () -> c.insert(row[0], row[1]));
+            Edges.refused(() -> Checks.loaded(FIVE), "insert(" + row[0] + ", " + row[1] + ")",
+                IllegalArgumentException.class, c -> c.insert(row[0], row[1]));
         }
-        Checks.due("insert", c.insert(1, 1), 118);
-        Checks.due("insert", c.insert(1, 1), 119);
-        Checks.refused(c, "insert of a 121st row", IllegalStateException.class, () -> c.insert(1, 1));
+        CrackedColumn full = Checks.loaded("row1 1;".repeat(118) + "pending 30;");
+        Checks.due("insert", full.insert(1, 1), 118);
+        Checks.due("insert", full.insert(1, 1), 119);
+        Edges.refused(RowsTest::full, "insert of a 121st row", IllegalStateException.class, c -> c.insert(1, 1));
+        Edges.refused(RowsTest::fullButOneDeleted, "insert behind a delete", IllegalStateException.class,
+            c -> c.insert(1, 1));
+        Edges.refused(RowsTest::full, "insert(-1, 1) into 120 rows", IllegalArgumentException.class,
+            c -> c.insert(-1, 1));
+        Edges.refused(RowsTest::full, "insert(1, 100) into 120 rows", IllegalArgumentException.class,
+            c -> c.insert(1, 100));
+    }
+
+    private static CrackedColumn full() {
+        CrackedColumn c = Checks.loaded("row1 1;".repeat(118) + "pending 30;");
+        c.insert(1, 1);
+        c.insert(1, 1);
+        return c;
+    }
+
+    private static CrackedColumn fullButOneDeleted() {
+        CrackedColumn c = full();
         c.delete(119);
-        Checks.refused(c, "insert behind a delete", IllegalStateException.class, () -> c.insert(1, 1));
-        Checks.refused(c, "insert(-1, 1) into 120 rows", IllegalArgumentException.class, () -> c.insert(-1, 1));
-        Checks.refused(c, "insert(1, 100) into 120 rows", IllegalArgumentException.class, () -> c.insert(1, 100));
-        Checks.due("undo behind refused calls", c.undo(), 3);
+        return c;
     }
 
     private static void delete() {
@@ -132,18 +146,26 @@ public final class RowsTest {
     }
 
     private static void deleteRefused() {
+        Edges.refused(RowsTest::twoDeleted, "delete of a deleted row", IllegalStateException.class,
+            c -> c.delete(5));
+        Edges.refused(RowsTest::twoDeleted, "delete of a row with a pending delete", IllegalStateException.class,
+            c -> c.delete(0));
+        for (int row : new int[] {6, -1, Integer.MIN_VALUE, Integer.MAX_VALUE}) {
+            Edges.refused(RowsTest::twoDeleted, "delete(" + row + ")", IndexOutOfBoundsException.class,
+                c -> c.delete(row));
+        }
+        CrackedColumn merged = twoDeleted();
+        merged.mergeAll();
+        Checks.refused(merged, "delete of a row that left", IllegalStateException.class, () -> merged.delete(0));
+        Checks.due("undo behind a refused call", merged.undo(), 4);
+    }
+
+    private static CrackedColumn twoDeleted() {
         CrackedColumn c = Checks.loaded(FIVE);
         c.insert(1, 1);
         c.delete(5);
         c.delete(0);
-        Checks.refused(c, "delete of a deleted row", IllegalStateException.class, () -> c.delete(5));
-        Checks.refused(c, "delete of a row with a pending delete", IllegalStateException.class, () -> c.delete(0));
-        for (int row : new int[] {6, -1, Integer.MIN_VALUE, Integer.MAX_VALUE}) {
-            Checks.refused(c, "delete(" + row + ")", IndexOutOfBoundsException.class, () -> c.delete(row));
-        }
-        c.mergeAll();
-        Checks.refused(c, "delete of a row that left", IllegalStateException.class, () -> c.delete(0));
-        Checks.due("undo behind refused calls", c.undo(), 4);
+        return c;
     }
 
     private static void mergeAll() {

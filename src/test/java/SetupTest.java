@@ -216,17 +216,13 @@ public final class SetupTest {
         c.sort(0);
         Checks.due("sorted pieces", c.count(5), 2);
         for (int what : new int[] {-1, 12, Integer.MIN_VALUE, Integer.MAX_VALUE}) {
-            Checks.refused(c, "count(" + what + ")", IllegalArgumentException.class, () -> c.count(what));
+            CrackedColumn five = Checks.loaded(FIVE);
+            Checks.refused(five, "count(" + what + ")", IllegalArgumentException.class, () -> five.count(what));
         }
     }
 
     private static void rows() {
-        CrackedColumn c = Checks.loaded(FIVE);
-        c.query(20, 60);
-        c.insert(25, -7);
-        c.insert(26, 8);
-        c.delete(0);
-        c.delete(6);
+        CrackedColumn c = rowsOfAllKinds();
         String[] due = {"50 1 2 1", "10 2 0 0", "30 3 0 2", "70 4 0 4", "20 5 0 3", "25 -7 1 -1", "26 8 3 -1"};
         for (int row = 0; row < due.length; row++) {
             String got = c.row(row, 0) + " " + c.row(row, 1) + " " + c.row(row, 2) + " " + c.row(row, 3);
@@ -237,11 +233,26 @@ public final class SetupTest {
         Checks.due("place of the row that was taken out", c.row(0, 3), -1);
         Checks.due("state of the row that came in", c.row(5, 2), 0);
         Checks.due("place of the row that came in", c.row(5, 3), 3);
-        Checks.refused(c, "row(7, 0)", IndexOutOfBoundsException.class, () -> c.row(7, 0));
-        Checks.refused(c, "row(-1, 0)", IndexOutOfBoundsException.class, () -> c.row(-1, 0));
-        Checks.refused(c, "row(7, 9)", IndexOutOfBoundsException.class, () -> c.row(7, 9));
-        Checks.refused(c, "row(0, 4)", IllegalArgumentException.class, () -> c.row(0, 4));
-        Checks.refused(c, "row(0, -1)", IllegalArgumentException.class, () -> c.row(0, -1));
+        rowRefused(7, 0, IndexOutOfBoundsException.class);
+        rowRefused(-1, 0, IndexOutOfBoundsException.class);
+        rowRefused(7, 9, IndexOutOfBoundsException.class);
+        rowRefused(0, 4, IllegalArgumentException.class);
+        rowRefused(0, -1, IllegalArgumentException.class);
+    }
+
+    private static CrackedColumn rowsOfAllKinds() {
+        CrackedColumn c = Checks.loaded(FIVE);
+        c.query(20, 60);
+        c.insert(25, -7);
+        c.insert(26, 8);
+        c.delete(0);
+        c.delete(6);
+        return c;
+    }
+
+    private static void rowRefused(int row, int what, Class<?> due) {
+        CrackedColumn c = rowsOfAllKinds();
+        Checks.refused(c, "row(" + row + ", " + what + ")", due, () -> c.row(row, what));
     }
 
     private static void entries() {
@@ -278,12 +289,17 @@ public final class SetupTest {
         // 4 3 | 5 5 9 8
         Checks.due("descents of the first part", c.piece(0, 5), 1);
         Checks.due("descents of the second part", c.piece(1, 5), 1);
-        CrackedColumn d = c;
-        Checks.refused(d, "piece(2, 0)", IndexOutOfBoundsException.class, () -> d.piece(2, 0));
-        Checks.refused(d, "piece(-1, 0)", IndexOutOfBoundsException.class, () -> d.piece(-1, 0));
-        Checks.refused(d, "piece(2, 6)", IndexOutOfBoundsException.class, () -> d.piece(2, 6));
-        Checks.refused(d, "piece(1, 6)", IllegalArgumentException.class, () -> d.piece(1, 6));
-        Checks.refused(d, "piece(1, -1)", IllegalArgumentException.class, () -> d.piece(1, -1));
+        pieceRefused(2, 0, IndexOutOfBoundsException.class);
+        pieceRefused(-1, 0, IndexOutOfBoundsException.class);
+        pieceRefused(2, 6, IndexOutOfBoundsException.class);
+        pieceRefused(1, 6, IllegalArgumentException.class);
+        pieceRefused(1, -1, IllegalArgumentException.class);
+    }
+
+    private static void pieceRefused(int piece, int what, Class<?> due) {
+        CrackedColumn c = Checks.loaded(FIVE);
+        c.crack(25);
+        Checks.refused(c, "piece(" + piece + ", " + what + ")", due, () -> c.piece(piece, what));
     }
 
     private static void pieceOf() {
@@ -297,7 +313,8 @@ public final class SetupTest {
             Checks.due("pieceOf(" + keys[i] + ")", c.pieceOf(keys[i]), due[i]);
         }
         for (int key : new int[] {-1, 10000, Integer.MIN_VALUE, Integer.MAX_VALUE}) {
-            Checks.refused(c, "pieceOf(" + key + ")", IllegalArgumentException.class, () -> c.pieceOf(key));
+            CrackedColumn five = Checks.loaded(FIVE);
+            Checks.refused(five, "pieceOf(" + key + ")", IllegalArgumentException.class, () -> five.pieceOf(key));
         }
     }
 

@@ -1,5 +1,5 @@
-import java.util.ArrayList;
 import java.util.List;
+import java.util.function.Consumer;
 
 /** Promises 29 to 31: the written text and undo; and which calls are changes. */
 public final class TextsAndUndoTest {
@@ -39,15 +39,36 @@ public final class TextsAndUndoTest {
     }
 
     private static void writeManyPieces() {
-        CrackedColumn c = Checks.loaded("row1 1;".repeat(120));
         StringBuilder due = new StringBuilder("0:0u0 1:120u0");
+        for (int at = 2; at < 60; at++) {
+            due.append(' ').append(at * 169).append(":0u0");
+        }
+        // an object bears 512 calls, so the text is read in parts
+        int part = 200;
+        for (int from = 0; from < due.length(); from += part) {
+            CrackedColumn c = manyPieces();
+            Checks.due("writePieces", c.writePieces(), due.length());
+            StringBuilder got = new StringBuilder();
+            int to = Math.min(from + part, due.length());
+            for (int i = from; i < to; i++) {
+                got.append((char) c.writtenByte(i));
+            }
+            Checks.due("written from " + from, got.toString(), due.substring(from, to));
+        }
+        int end = due.length();
+        Checks.due("writtenByte behind the text", Edges.thrown(manyPieces(), c -> {
+            c.writePieces();
+            c.writtenByte(end);
+        }), "IndexOutOfBoundsException");
+    }
+
+    private static CrackedColumn manyPieces() {
+        CrackedColumn c = Checks.loaded("row1 1;".repeat(120));
         c.crack(1);
         for (int at = 2; at < 60; at++) {
             c.crack(at * 169);
-            due.append(' ').append(at * 169).append(":0u0");
         }
-        Checks.due("writePieces", c.writePieces(), due.length());
-        Checks.due("written", Checks.written(c), due.toString());
+        return c;
     }
 
     private static void writtenByte() {
@@ -59,7 +80,10 @@ public final class TextsAndUndoTest {
             Checks.due("writtenByte(" + i + ")", c.writtenByte(i), due[i]);
         }
         for (int index : new int[] {5, -1, Integer.MIN_VALUE, Integer.MAX_VALUE}) {
-            Checks.refused(c, "writtenByte(" + index + ")", IndexOutOfBoundsException.class, () -> c.writtenByte(index));
+            CrackedColumn five = Checks.loaded(FIVE);
+            five.writePieces();
+            Checks.refused(five, "writtenByte(" + index + ")", IndexOutOfBoundsException.class,
+                () -> five.writtenByte(index));
         }
         c.crack(7);
         c.writePieces();
@@ -70,21 +94,32 @@ public final class TextsAndUndoTest {
     }
 
     private static void undoBringsBack() {
-        CrackedColumn c = Checks.loaded(FIVE);
-        List<String> states = new ArrayList<>();
-        List<Runnable> changes = List.of(() -> c.query(20, 60), () -> c.insert(25, 1), () -> c.delete(0),
-            () -> c.set(3, 1), () -> c.query(20, 30), () -> c.sort(1), () -> c.crack(25), () -> c.mergeAll(),
-            () -> c.drop(1), () -> c.set(0, 1), () -> c.query(20, 60), () -> Checks.load(c, "row 1 1;hot 2;"),
-            () -> c.query(0, 5), () -> c.insert(3, 3), () -> c.delete(0), () -> c.crack(3));
-        for (Runnable change : changes) {
-            states.add(Checks.state(c));
-            change.run();
-        }
+        List<Consumer<CrackedColumn>> changes = List.of(c -> c.query(20, 60), c -> c.insert(25, 1), c -> c.delete(0),
+            c -> c.set(3, 1), c -> c.query(20, 30), c -> c.sort(1), c -> c.crack(25), c -> c.mergeAll(),
+            c -> c.drop(1), c -> c.set(0, 1), c -> c.query(20, 60), c -> Checks.load(c, "row 1 1;hot 2;"),
+            c -> c.query(0, 5), c -> c.insert(3, 3), c -> c.delete(0), c -> c.crack(3));
         for (int left = 7; left >= 0; left--) {
-            Checks.due("undo", c.undo(), left);
-            Checks.due("state with " + left + " changes left", Checks.state(c), states.get(8 + left));
+            int count = 8 + left;
+            Edges.sameState("undos up to " + left, () -> undone(changed(changes, 16), count - 8),
+                () -> changed(changes, count));
         }
-        Checks.refused(c, "undo of a ninth change", IllegalStateException.class, () -> c.undo());
+        CrackedColumn empty = undone(changed(changes, 16), 0);
+        Checks.refused(empty, "undo of a ninth change", IllegalStateException.class, () -> empty.undo());
+    }
+
+    private static CrackedColumn changed(List<Consumer<CrackedColumn>> changes, int count) {
+        CrackedColumn c = Checks.loaded(FIVE);
+        for (int i = 0; i < count; i++) {
+            changes.get(i).accept(c);
+        }
+        return c;
+    }
+
+    private static CrackedColumn undone(CrackedColumn c, int due) {
+        for (int left = 7; left >= due; left--) {
+            Checks.due("undo", c.undo(), left);
+        }
+        return c;
     }
 
     private static void undoLeavesTexts() {
@@ -133,28 +168,26 @@ public final class TextsAndUndoTest {
         Checks.due("key of the last one", c.row(2, 0), 2);
     }
 
-    private static void isChange(String call, Runnable change, CrackedColumn c) {
-        int before = c.undo();
-        c.insert(1, 1);
+    private static void isChange(String call, Consumer<CrackedColumn> change) {
+        CrackedColumn c = Checks.loaded(FIVE);
+        c.query(20, 60);
+        c.insert(30, 1);
         String state = Checks.state(c);
-        change.run();
-        Checks.due("undo behind " + call, c.undo(), before + 1);
+        change.accept(c);
+        Checks.due("undo behind " + call, c.undo(), 3);
         Checks.due("state behind an undo of " + call, Checks.state(c), state);
     }
 
     private static void whatIsAChange() {
-        CrackedColumn c = Checks.loaded(FIVE);
-        c.query(20, 60);
-        c.insert(30, 1);
-        isChange("load", () -> c.load(0), c);
-        isChange("insert", () -> c.insert(2, 2), c);
-        isChange("delete", () -> c.delete(1), c);
-        isChange("query", () -> c.query(20, 60), c);
-        isChange("set to what it was", () -> c.set(0, 3), c);
-        isChange("mergeAll", () -> c.mergeAll(), c);
-        isChange("sort", () -> c.sort(0), c);
-        isChange("crack at a bound", () -> c.crack(20), c);
-        isChange("drop", () -> c.drop(1), c);
+        isChange("load", c -> c.load(0));
+        isChange("insert", c -> c.insert(2, 2));
+        isChange("delete", c -> c.delete(1));
+        isChange("query", c -> c.query(20, 60));
+        isChange("set to what it was", c -> c.set(0, 3));
+        isChange("mergeAll", c -> c.mergeAll());
+        isChange("sort", c -> c.sort(0));
+        isChange("crack at a bound", c -> c.crack(20));
+        isChange("drop", c -> c.drop(1));
     }
 
     private static void whatIsNoChange() {
